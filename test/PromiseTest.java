@@ -99,6 +99,7 @@ public final class PromiseTest {
         due("write(0, 15, 999)", x.write(0, 15, 999), 5);
         due("write(0, 15, 0) takes the lowest of the like ones", x.write(0, 15, 0), 6);
         due("blockAt(6, 1)", x.blockAt(6, 1), 0);
+        due("count(7)", x.count(7), 3);
         writeWrong();
         writeLimits();
     }
@@ -196,6 +197,7 @@ public final class PromiseTest {
 
     private static void promise4() {
         begin("4, copy");
+        due("copy(0, 0, 0, 0, 48) of a new object", new SharedStates().copy(0, 0, 0, 0, 48), 1);
         SharedStates x = new SharedStates();
         for (int i = 0; i < 8; i++) {
             x.write(0, i, i + 1);
@@ -250,6 +252,7 @@ public final class PromiseTest {
 
     private static void promise5() {
         begin("5, merge");
+        due("merge(0, 0) of a new object", new SharedStates().merge(0, 0), 0);
         SharedStates x = withTwoBranches();
         due("merge(0, 3)", x.merge(0, 3), 1);
         int[] row = {5, 5, 5, 5, 0};
@@ -389,6 +392,14 @@ public final class PromiseTest {
         due("blockAt(4, 0), the lowest that no block has", x.blockAt(4, 0), 1);
         x.back(0);
         due("forget(4), the last one", x.forget(4), 1);
+        due("forget(4)", x.forget(4), INVALID);
+        due("write(0, 0, 9)", x.write(0, 0, 9), 5);
+        due("write(0, 0, 8)", x.write(0, 0, 8), 6);
+        due("write(0, 0, 7)", x.write(0, 0, 7), 7);
+        due("forget(3), the first of a row", x.forget(3), 0);
+        due("stateOf(5, 0)", x.stateOf(5, 0), 0);
+        due("stateOf(6, 0)", x.stateOf(6, 0), 5);
+        due("stateOf(7, 0)", x.stateOf(7, 0), 6);
         for (int number : WRONG) {
             due("forget(" + number + ")", x.forget(number), INVALID);
         }
@@ -419,6 +430,9 @@ public final class PromiseTest {
         due("read(2, 9)", x.read(2, 9), 4);
         due("share()", x.share(), 0);
         due("count(9), each share is a change", x.count(9), 4);
+        due("fill(0, 16, 32, 8)", x.fill(0, 16, 32, 8), 5);
+        due("blockAt(5, 2), the lowest that is free now", x.blockAt(5, 2), 2);
+        due("blockAt(5, 5)", x.blockAt(5, 5), 5);
     }
 
     private static void promise11() {
@@ -577,6 +591,7 @@ public final class PromiseTest {
         begin("18, unlike");
         SharedStates x = withTwoBranches();
         due("unlike(1, 3, 0)", x.unlike(1, 3, 0), 3);
+        due("unlike(0, 1, 0)", x.unlike(0, 1, 0), 3);
         due("unlike(1, 3, 1)", x.unlike(1, 3, 1), 0);
         due("unlike(2, 3, 1)", x.unlike(2, 3, 1), 1);
         due("unlike(1, 3, 2)", x.unlike(1, 3, 2), 1);
@@ -648,6 +663,7 @@ public final class PromiseTest {
 
     private static void promise21() {
         begin("21, conflicts");
+        due("conflicts(0, 0) of a new object", new SharedStates().conflicts(0, 0), 0);
         SharedStates x = withTwoBranches();
         due("conflicts(0, 3)", x.conflicts(0, 3), 1);
         due("conflicts(0, 2), the same value is none", x.conflicts(0, 2), 0);
@@ -908,6 +924,10 @@ public final class PromiseTest {
         x.undo();
         typeAll(x, "w0,0,1;");
         due("fault(0), by what there is now", x.fault(0), MISSING);
+        x.clearText();
+        typeAll(x, "w0");
+        due("fault(1), not by what was cleared", x.fault(1), 1);
+        due("fault(2)", x.fault(2), 2);
     }
 
     private static void promise29() {
