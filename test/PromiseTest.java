@@ -1,50 +1,5 @@
 /** For each promise: ordinary inputs, the edges that the document names, and wrong inputs. */
-public final class PromiseTest {
-    private static final int INVALID = -1000001;
-    private static final int IMPOSSIBLE = -1000002;
-    private static final int LIMIT = -1000003;
-    private static final int MISSING = -1000004;
-    private static final int[] WRONG = {-1, -2, Integer.MIN_VALUE, Integer.MAX_VALUE};
-
-    private static int wrong = 0;
-    private static String where = "";
-
-    private static void due(String what, int got, int want) {
-        if (got != want) {
-            wrong++;
-            System.out.println(where + ": " + what + " answered " + got + ", due is " + want);
-        }
-    }
-
-    private static void begin(String promise) {
-        where = promise;
-    }
-
-    private static void typeAll(SharedStates x, String text) {
-        for (int i = 0; i < text.length(); i++) {
-            x.type(text.charAt(i));
-        }
-    }
-
-    /** 16 states in a row, 0 to 15; state i has the value i in cell 0, by the block i. */
-    private static SharedStates withAllStates() {
-        SharedStates x = new SharedStates();
-        for (int i = 1; i < 16; i++) {
-            x.write(0, 0, i);
-        }
-        return x;
-    }
-
-    /** 37 blocks, as setting 0 is 0: each of the states 1 to 6 has its number in all cells, by six blocks of its own. */
-    private static SharedStates withManyBlocks() {
-        SharedStates x = new SharedStates();
-        x.set(0, 0);
-        for (int i = 1; i <= 6; i++) {
-            x.fill(0, 0, 48, i);
-        }
-        return x;
-    }
-
+public final class PromiseTest extends TestKit {
     private static void constants() {
         begin("constants");
         due("INVALID_ARGUMENT", SharedStates.INVALID_ARGUMENT, INVALID);
@@ -238,16 +193,6 @@ public final class PromiseTest {
         due("copy of four blocks too many by one", y.copy(0, 1, 0, 0, 32), LIMIT);
         due("copy of three blocks", y.copy(0, 1, 0, 0, 24), 7);
         due("count(2)", y.count(2), 40);
-    }
-
-    /** Branch 0 stands at state 1 (5 5 5 0), branch 1 at state 3 (0 6 5 5), whose parent is state 2 (0 5 5 5). */
-    private static SharedStates withTwoBranches() {
-        SharedStates x = new SharedStates();
-        x.branch(0);
-        x.fill(0, 0, 3, 5);
-        x.fill(1, 1, 3, 5);
-        x.write(1, 1, 6);
-        return x;
     }
 
     private static void promise5() {
@@ -997,9 +942,6 @@ public final class PromiseTest {
         promise27();
         promise28();
         promise29();
-        System.out.println(wrong == 0 ? "all promises hold" : wrong + " answers are not as due");
-        if (wrong != 0) {
-            System.exit(1);
-        }
+        finish("all promises hold");
     }
 }
