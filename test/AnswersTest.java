@@ -132,6 +132,7 @@ public final class AnswersTest extends TestKit {
         y.back(0);
         y.forget(3);
         due("all, as that is forgotten", y.stateOf(2, 5), 6);
+        due("three, with the last of 40 blocks", withAllBlocks().stateOf(7, 5), 3);
         sentence("6: how many blocks it has, by their numbers");
         due("one", y.stateOf(0, 6), 1);
         due("two", y.stateOf(1, 6), 2);
@@ -208,6 +209,7 @@ public final class AnswersTest extends TestKit {
         SharedStates y = withAllStates();
         due("the places of 16 states but for 15", y.blockOf(0, 0), 81);
         due("one", y.blockOf(15, 0), 1);
+        due("one, of the last of 40", withAllBlocks().blockOf(39, 0), 1);
         sentence("1: how many states have it");
         due("all", y.blockOf(0, 1), 16);
         due("one", y.blockOf(15, 1), 1);
@@ -251,6 +253,11 @@ public final class AnswersTest extends TestKit {
         x.share();
         due("none, as they are shared", x.blockOf(1, 4), MISSING);
         due("of the last of 40", withAllBlocks().blockOf(39, 4), 37);
+        SharedStates z = withManyBlocks();
+        z.write(0, 0, 7);
+        z.write(0, 0, 8);
+        z.write(0, 0, 7);
+        due("of one whose like one is the last of 40", z.blockOf(37, 4), 39);
         SharedStates y = new SharedStates();
         y.set(0, 0);
         y.write(0, 0, 1);
@@ -394,6 +401,12 @@ public final class AnswersTest extends TestKit {
         SharedStates y = withAllStates();
         due("the one before, of 16", y.before(15, 0), 14);
         due("none, of 16", y.before(15, 1), MISSING);
+        SharedStates z = new SharedStates();
+        z.write(0, 47, 1);
+        for (int i = 2; i < 16; i++) {
+            z.write(0, 0, i);
+        }
+        due("state 0, 15 steps away", z.before(15, 47), 0);
     }
 
     // ---- conflicts, frees, heaviest
@@ -451,6 +464,10 @@ public final class AnswersTest extends TestKit {
         y.share();
         due("one at six places", y.frees(1), 1);
         due("none", y.frees(6), 0);
+        due("six, with the last of 40 blocks", and(TestKit::withAllBlocks, x -> {
+            x.forget(6);
+            x.back(0);
+        }).get().frees(7), 6);
         due("state 0 of a new object", new SharedStates().frees(0), IMPOSSIBLE);
     }
 

@@ -277,6 +277,24 @@ public final class TermsTest extends TestKit {
         due("with 40 blocks what there is can be taken", z.fill(0, 0, 48, 3), 8);
         dueRow("block at", z, (s, place) -> s.blockAt(8, place), 13, 13, 13, 13, 13, 13);
         due("with 40 blocks none can be made", z.write(0, 0, 4), LIMIT);
+        theFirstAndTheLastBlockAreTaken();
+    }
+
+    private static void theFirstAndTheLastBlockAreTaken() {
+        SharedStates x = new SharedStates();
+        x.write(0, 0, 1);
+        due("block 0 is taken", x.write(0, 0, 0), 2);
+        due("the block", x.blockAt(2, 0), 0);
+        due("blocks made", x.count(6), 2);
+        due("blocks taken", x.count(7), 1);
+        SharedStates y = withManyBlocks();
+        y.write(0, 0, 7);
+        y.write(0, 0, 8);
+        y.write(0, 0, 9);
+        y.back(0);
+        y.set(0, 1);
+        due("block 39 is taken", y.write(0, 0, 9), 10);
+        due("the block", y.blockAt(10, 0), 39);
     }
 
     // ---- Merging
